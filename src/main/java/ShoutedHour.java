@@ -1209,7 +1209,6 @@ public final class ShoutedHour {
                 return false;
             }
             draft.addStep(RuleBook.comparing(sign, left, right));
-            addWaiting(RuleBook.NOT);
             state = AT_JOINT_OR_DEED;
             return true;
         }
@@ -1234,7 +1233,6 @@ public final class ShoutedHour {
             if (waitingCount > 0) {
                 waitingCount--;
             }
-            addWaiting(RuleBook.NOT);
             return true;
         }
 

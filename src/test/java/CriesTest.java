@@ -113,6 +113,9 @@ public final class CriesTest {
             d.due("holds both ways", x.holds(3, 100, k), heldBoth[k]);
         }
         d.due("to itself", x.comes(5, 1439, 5), 1439);
+        x.change(0, 1, 5);
+        d.due("the first adds, too", x.holds(5, 400, 0), 450);
+        d.due("not where it begins", x.holds(0, 400, 1), 410);
         d.due("past the day", x.comes(0, 1439, 5), 1542);
         d.due("past the day", x.holds(0, 1439, 5), 1509);
         d.due("not", x.comes(0, 100, 3), -3);
@@ -236,6 +239,13 @@ public final class CriesTest {
         d.due("rules look at add", x.bestAdd(1, 0, 400), 50);
         Due.rulesOf(x, "watchman add 25;");
         d.due("all the same", x.bestAdd(1, 0, 400), 0);
+        Due.rulesOf(x, "");
+        x.wind(1, 0);
+        x.wind(0, -2);
+        d.due("on day 0, too", x.bestAdd(1, 0, 400), 15);
+        x.change(1, 3, 20);
+        x.wind(0, 3);
+        d.due("the most", x.bestAdd(1, 0, 1439), 99);
         for (int k : NO_TOWER_OF_SIX) {
             d.due("bestAdd of " + k, x.bestAdd(k, 0, 0), -1);
             d.due("bestAdd from " + k, x.bestAdd(0, k, 0), -1);
@@ -307,6 +317,15 @@ public final class CriesTest {
         d.due("not crossed", x.crossed(400, 504), -3);
         d.due("one doesn't come there", x.crossed(100, 100), -3);
         d.due("a sleeper is in the way", x.crossed(400, 297), 4);
+        Due.rulesOf(x, "sleeper silent;");
+        d.due("a silent one, both ways", x.crossed(400, 387), 3);
+        d.due("a silent one, both ways", x.crossed(400, 388), -3);
+        Due.rulesOf(x, "");
+        x.wind(1, 1);
+        x.day(1);
+        d.due("winds, both ways", x.crossed(400, 411), 3);
+        d.due("winds, both ways", x.crossed(400, 412), 4);
+        x.day(0);
         for (int t : NO_T) {
             d.due("crossed at " + t, x.crossed(t, 0), -1);
             d.due("crossed at " + t, x.crossed(0, t), -1);
@@ -393,6 +412,9 @@ public final class CriesTest {
         d.due("as good as another: the least", y.mender(0, 400), 1);
         y.change(1, 2, 9);
         d.due("none is better", y.mender(1, 400), -3);
+        y.change(0, 1, 10);
+        y.change(0, 2, 5);
+        d.due("the first", y.mender(1, 400), 0);
         for (int k : NO_TOWER_OF_SIX) {
             d.due("mender from " + k, x.mender(k, 0), -1);
         }
@@ -437,6 +459,10 @@ public final class CriesTest {
         d.due("itself", x.latest(2, 2, 1439), 1439);
         d.due("itself", x.latest(2, 2, 1440), 1439);
         d.due("east", x.latest(5, 0, 503), 400);
+        x.wind(0, 1);
+        d.due("with a wind", x.latest(0, 1, 500), 475);
+        Due.rulesOf(x, "plain silent;");
+        d.due("beyond a silent one", x.latest(0, 2, 500), -3);
         for (int k : NO_TOWER_OF_SIX) {
             d.due("latest of " + k, x.latest(k, 0, 0), -1);
             d.due("latest from " + k, x.latest(0, k, 0), -1);
@@ -500,6 +526,7 @@ public final class CriesTest {
         }
         d.due("by the first", x.lost(0, 300), 2);
         d.due("comes to two", x.lost(1, 300), 1);
+        d.due("from the first it is heard", x.lost(1, 317), 4);
         d.due("to none beyond", x.lost(2, 300), 0);
         d.due("not come there", x.lost(3, 300), 0);
         d.due("not come there", x.lost(5, 300), 0);

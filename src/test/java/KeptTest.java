@@ -90,6 +90,14 @@ public final class KeptTest {
         y.tower(1, 0, 0, 1);
         d.due("kept with no towers", y.again(), 0);
         d.due("no towers", y.many(0), 0);
+        y.tower(1, 0, 0, 1);
+        y.tower(1, 10, 0, 1);
+        y.report(1, 30);
+        y.keep();
+        y.forget();
+        y.report(0, 31);
+        y.again();
+        d.due("the report's tower and hour", y.fits(0, 1), 20);
         d.end();
     }
 }

@@ -97,6 +97,12 @@ public final class ReportsTest {
         x.report(4, 446);
         d.due("two against two", x.liar(0), -3);
         x.forget();
+        x.report(1, 1449);
+        d.due("at the last minute", x.liar(0), -3);
+        x.forget();
+        x.report(1, 10);
+        d.due("at the first minute", x.liar(0), -3);
+        x.forget();
         x.report(3, 100);
         d.due("one that nothing bears out", x.liar(0), 0);
         d.due("he cried himself", x.liar(3), -3);

@@ -74,6 +74,8 @@ public final class RulesTest {
         fault("   ;", 3);
         fault("Plain add 1;", 0);
         fault("plains add 1;", 0);
+        fault("plainz add 1;", 0);
+        fault("zplain add 1;", 0);
         fault("pla", 0);
         fault("plain", 5);
         fault("plain  ", 7);
@@ -229,6 +231,11 @@ public final class RulesTest {
         d.due("one rule", Due.rulesOf(x, "plain if add = 11 add 9;"), 1);
         d.due("in place of all", x.many(1), 1);
         d.due("in place of all", x.towerOf(0, 4), 10);
+        d.due("a fault in brackets", Due.rulesOf(x, "plain if ((not day = 0 add 1;"), -123);
+        d.due("another text", Due.rulesOf(x, "plain if (((day = 0))) add 8; plain if day = 1 add 9;"), 2);
+        d.due("the conditions are its own", x.towerOf(0, 4), 8);
+        d.due("another text", Due.rulesOf(x, "plain if not day = 0 add 8; plain if not day = 1 add 9;"), 2);
+        d.due("the conditions are its own", x.towerOf(0, 4), 9);
         d.due("no text", x.rules(), 0);
         d.due("no rules", x.many(1), 0);
     }
