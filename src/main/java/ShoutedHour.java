@@ -28,6 +28,9 @@ public final class ShoutedHour {
     private final Cry asked = new Cry(now);
     /** A second cry, for what asks about two at once. */
     private final Cry second = new Cry(now);
+    /** For bestAdd(), by DAYS: whether it comes to the TOWER, and what OFF would be if he added nothing. */
+    private final boolean[] comesOnDay = new boolean[DAYS];
+    private final int[] unaddedOff = new int[DAYS];
 
     private int rowCount = 0;
     private final int[][] rows = new int[MOST_TOWERS][3];
@@ -505,15 +508,15 @@ public final class ShoutedHour {
         return (z >>> 16) % DAYS - MOST_WIND;
     }
 
-    /** Per DAY, into the cry's own row: OFF of a TOWER if it added nothing; false if it comes to it on none. */
+    /** Fills comesOnDay and unaddedOff for a TOWER; whether it comes to it on any DAY. */
     private boolean takeUnaddedOffs(int k, int from, int t) {
         boolean any = false;
         for (int day = 0; day < DAYS; day++) {
             asked.takeDay(day);
             asked.goBothWays(from, t);
-            asked.comesOnDay[day] = asked.reaches(k);
-            asked.unaddedOff[day] = asked.offOf(k) - asked.adds[k];
-            any = any || asked.comesOnDay[day];
+            comesOnDay[day] = asked.reaches(k);
+            unaddedOff[day] = asked.offOf(k) - asked.adds[k];
+            any = any || comesOnDay[day];
         }
         return any;
     }
@@ -522,9 +525,9 @@ public final class ShoutedHour {
     private int farthestOverDays(int k) {
         int farthest = 0;
         for (int day = 0; day < DAYS; day++) {
-            if (asked.comesOnDay[day]) {
+            if (comesOnDay[day]) {
                 int adds = now.addedBy(now.ruleFor(k, day), k, day);
-                farthest = Math.max(farthest, Math.abs(asked.unaddedOff[day] + adds));
+                farthest = Math.max(farthest, Math.abs(unaddedOff[day] + adds));
             }
         }
         return farthest;
@@ -1336,9 +1339,6 @@ public final class ShoutedHour {
         private int begins = 0;
         final int[] came = new int[MOST_TOWERS];
         final int[] held = new int[MOST_TOWERS];
-        /** For bestAdd(): rows over the DAYS. */
-        final boolean[] comesOnDay = new boolean[DAYS];
-        final int[] unaddedOff = new int[DAYS];
 
         Cry(Valley valley) {
             this.valley = valley;

@@ -167,6 +167,8 @@ public final class RulesTest {
         condition("9999 > 9998", true);
         condition("0030 = add", true);
         condition("day = day", true);
+        condition("0 = 0", true);
+        condition("0 < day", true);
     }
 
     private static void conditions() {
@@ -236,6 +238,10 @@ public final class RulesTest {
         d.due("the conditions are its own", x.towerOf(0, 4), 8);
         d.due("another text", Due.rulesOf(x, "plain if not day = 0 add 8; plain if not day = 1 add 9;"), 2);
         d.due("the conditions are its own", x.towerOf(0, 4), 9);
+        for (int times = 0; times < 100; times++) {
+            Due.rulesOf(x, "plain if day = 1 or not (day = 0 and wind = 3) silent; plain if day = 0 add " + times + ";");
+            d.due("one text after another", x.towerOf(0, 4), times);
+        }
         d.due("no text", x.rules(), 0);
         d.due("no rules", x.many(1), 0);
     }
