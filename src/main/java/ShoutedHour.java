@@ -723,15 +723,15 @@ public final class ShoutedHour {
         if (!isSheet(sheet) || n < 0 || n > MOST_TOWERS) {
             return BAD;
         }
-        if (sheetSort[sheet] != BYTES && sheetSort[sheet] != MISSING) {
+        // these refuse the sheet itself, even where no item of it is asked
+        if (sheetSort[sheet] == MISSING) {
+            return NOTHING;
+        }
+        if (sheetSort[sheet] != BYTES) {
             return OTHER_SORT;
         }
         int came = 0;
         for (int k = 0; k < n; k++) {
-            // a missing sheet refuses only where an item of it is asked
-            if (sheetSort[sheet] == MISSING) {
-                return NOTHING;
-            }
             if (!isItem(sheet, i + k)) {
                 return OUTSIDE;
             }

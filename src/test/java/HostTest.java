@@ -135,6 +135,15 @@ public final class HostTest {
         }
         d.due("missing", x.adds(1, 0, 1), -11);
         d.due("missing, outside", x.adds(1, -1, 1), -11);
+        d.due("missing, none", x.adds(1, 0, 0), -11);
+        d.due("missing, none, from nowhere", x.adds(1, HIGH, 0), -11);
+        x.sheet(1, 0, 0);
+        d.due("empty, none", x.adds(1, 0, 0), 0);
+        d.due("empty", x.adds(1, 0, 1), -12);
+        x.sheet(1, -1, 0);
+        d.due("missing again, none", x.adds(1, 0, 0), -11);
+        d.due("missing, too many", x.adds(1, 0, 10), -1);
+        d.due("of a new object", new ShoutedHour().adds(0, 0, 0), -11);
         for (int sort = 1; sort < 5; sort++) {
             x.sheet(1, sort, 3);
             d.due("another sort", x.adds(1, 0, 1), -13);

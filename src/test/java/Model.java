@@ -769,14 +769,13 @@ public final class Model {
         int came = 0;
         try {
             byte[] bytes = (byte[]) sheets[sheet];
+            if (bytes == null) return -11;
             for (int k = 0; k < n; k++) {
                 if (change(k, 1, bytes[i + k]) >= 0) came++;
             }
             return came;
         } catch (ClassCastException e) {
             return -13;
-        } catch (NullPointerException e) {
-            return -11;
         } catch (ArrayIndexOutOfBoundsException e) {
             return -12;
         }
