@@ -271,12 +271,12 @@ public final class ShoutedHour {
         }
         int was = now.add[k];
         int best = NONE;
-        int nearest = Integer.MAX_VALUE;
+        int nearest = 0;
         if (takeUnaddedOffs(k, from, t)) {
             for (int add = 0; add <= MOST_ADD; add++) {
                 now.add[k] = add;
                 int farthest = farthestOverDays(k);
-                if (farthest < nearest) {
+                if (best == NONE || farthest < nearest) {
                     best = add;
                     nearest = farthest;
                 }
@@ -396,11 +396,11 @@ public final class ShoutedHour {
             return BAD;
         }
         int best = NONE;
-        int nearest = Integer.MAX_VALUE;
+        int nearest = 0;
         for (int day = 0; day < DAYS; day++) {
             asked.takeDay(day);
             asked.goBothWays(from, t);
-            if (asked.reaches(k) && asked.distanceOf(k) < nearest) {
+            if (asked.reaches(k) && (best == NONE || asked.distanceOf(k) < nearest)) {
                 best = day;
                 nearest = asked.distanceOf(k);
             }

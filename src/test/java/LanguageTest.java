@@ -24,6 +24,7 @@ public final class LanguageTest {
         face();
         classes();
         words();
+        library();
         methods();
         objects();
         d.end();
@@ -131,6 +132,26 @@ public final class LanguageTest {
         }
         String all = Files.readString(SOURCE, StandardCharsets.ISO_8859_1);
         d.holds("signs 1 to 127 alone", all.chars().allMatch(c -> c == '\n' || c >= 32 && c < 127));
+    }
+
+    /** Rule 4, "The library: only what stands here": static functions that it lists, and no constant such as the greatest int. */
+    private static void library() throws Exception {
+        Set<String> own = new HashSet<>();
+        for (Class<?> c : ShoutedHour.class.getDeclaredClasses()) {
+            own.add(c.getSimpleName());
+        }
+        Matcher told = Pattern.compile("\\b([A-Z][a-z]\\w*)\\.(\\w+\\(?)").matcher(code());
+        while (told.find()) {
+            if (!own.contains(told.group(1))) {
+                d.holds("of the library " + told.group(), told.group().matches("(Integer|Long|Math)\\.[a-z]\\w*(?<!Exact)\\("
+                    + "|Arrays\\.(copyOf|copyOfRange|fill)\\(|System\\.arraycopy\\("));
+            }
+        }
+        Matcher types = Pattern.compile("\\b[A-Z][a-z]\\w*").matcher(code());
+        while (types.find()) {
+            d.holds("a class of its own or of the library's: " + types.group(), own.contains(types.group())
+                || Set.of("ShoutedHour", "String", "Integer", "Math", "Arrays", "System").contains(types.group()));
+        }
     }
 
     /** Rule 11: methods of some sixty lines; a method starts at 4 or 8 blanks and ends at the same. */
